@@ -83,6 +83,9 @@ final class CountTest {
         Check.sign("called off", x.state(), 's');
         LaunchRange y = new LaunchRange();
         y.addMark(-10, 3, 0);
+        for (int i = 0; i < 12; i++) {
+            y.addRule('w', 0, 0, 10, 0);
+        }
         y.begin(-10, 0, 100);
         y.pass(2);
         y.scrub();
@@ -249,6 +252,19 @@ final class CountTest {
         x.pass(1);
         Check.same("then goes on", x.count(), -7);
         Check.same("held twice", x.holds(), 4);
+        LaunchRange y = new LaunchRange();
+        y.addRule('w', 0, 0, 10, 0);
+        y.addMark(-8, 2, 0);
+        y.begin(-10, 0, 5000);
+        y.pass(5);
+        y.setWind(11);
+        y.pass(7);
+        y.setWind(0);
+        y.recycle(0);
+        y.pass(2);
+        Check.same("holds behind the mark do not count at it", y.count(), -8);
+        y.pass(1);
+        Check.same("then goes on", y.count(), -7);
     }
 
     private static void scrub() {
@@ -339,6 +355,12 @@ final class CountTest {
         Check.sign("for the window, as it was never held", x.cause(), 'o');
         Check.text("the log", Look.log(x), "0C;6R;6S;");
         Check.same("the count went further", x.count(), -4);
+        LaunchRange w = Ranges.calledOff();
+        w.setWind(0);
+        w.begin(-10, 0, 9);
+        w.pass(1);
+        Check.sign("a count that was never held, behind one that was", w.cause(), 'o');
+        Check.refuses(w, java.util.NoSuchElementException.class, "no rule", w::causeRule);
         LaunchRange y = new LaunchRange();
         y.begin(-10, 15, 15);
         y.pass(15);

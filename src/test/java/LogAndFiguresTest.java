@@ -175,6 +175,10 @@ final class LogAndFiguresTest {
         Check.real("three tanks", x.meanFill(), (0.0 + 2.0 / 3.0 + 2.0 / 7.0) / 3.0);
         x.setTank(1, 0, 0, 0);
         Check.real("one without room", x.meanFill(), (0.0 + 2.0 / 7.0) / 2.0);
+        x.setTank(0, 1, 1, 0);
+        x.setValve(0, true);
+        x.pass(1);
+        Check.real("a tank with room for 1", x.meanFill(), (1.0 + 4.0 / 7.0) / 2.0);
         x.setTank(0, 0, 0, 0);
         x.setTank(2, 0, 0, 0);
         Check.refuses(x, ARITHMETIC, "meanFill without room again", () -> (long) x.meanFill());

@@ -26,6 +26,7 @@ final class TanksAndStepsTest {
         addMarkWhileNotAllowed();
         marksHold();
         marksCountHoldsForOtherCauses();
+        marksInAnyOrder();
     }
 
     private static void newObject() {
@@ -415,6 +416,21 @@ final class TanksAndStepsTest {
         x.setWind(0);
         x.pass(1);
         Check.same("goes on at once", x.count(), -8);
+    }
+
+    private static void marksInAnyOrder() {
+        LaunchRange x = new LaunchRange();
+        x.addStep(-10, 1);
+        x.addStep(-7, 2);
+        x.addMark(-7, 0, 2);
+        x.addMark(-9, 3, 1);
+        x.addMark(-8, 1, 0);
+        x.begin(-10, 0, 100);
+        int[] due = {-9, -9, -9, -9, -8, -8, -7, -7, -7, -6};
+        for (int i = 0; i < due.length; i++) {
+            x.pass(1);
+            Check.same("each mark with its own seconds and steps, second " + i, x.count(), due[i]);
+        }
     }
 
     private static String steps(LaunchRange x) {
