@@ -33,9 +33,10 @@ final class Check {
         tell(got == want, what + " answered " + got + ", due is " + want);
     }
 
-    /** The call throws just this exception, no kind of it, and nothing that can be seen has changed. */
+    /** The call throws just this exception, no kind of it, and nothing has changed, seen or not. */
     static void refuses(LaunchRange x, Class<? extends RuntimeException> due, String what, LongSupplier call) {
         String before = Look.at(x);
+        String beforeInside = Look.inside(x);
         String thrown = "nothing";
         try {
             call.getAsLong();
@@ -44,6 +45,17 @@ final class Check {
         }
         tell(thrown.equals(due.getSimpleName()), what + " threw " + thrown + ", due is " + due.getSimpleName());
         text(what + " leaves", Look.at(x), before);
+        text(what + " leaves inside", Look.inside(x), beforeInside);
+    }
+
+    static void takes(String what, LongSupplier call) {
+        String thrown = "nothing";
+        try {
+            call.getAsLong();
+        } catch (RuntimeException e) {
+            thrown = e.getClass().getSimpleName();
+        }
+        text(what + " threw", thrown, "nothing");
     }
 
     private static void tell(boolean isRight, String fault) {

@@ -1,3 +1,6 @@
+import java.lang.reflect.Array;
+import java.lang.reflect.Field;
+import java.lang.reflect.Modifier;
 import java.util.NoSuchElementException;
 import java.util.function.Supplier;
 
@@ -46,6 +49,56 @@ final class Look {
         }
     }
 
+    /** All that stands inside a range, as valves, sensors and waivers are not shown by the face at once. */
+    static String inside(LaunchRange x) {
+        StringBuilder text = new StringBuilder();
+        appendInside(x, text);
+        return text.toString();
+    }
+
+    private static void appendInside(Object part, StringBuilder text) {
+        if (part == null || part instanceof Number || part instanceof Boolean) {
+            text.append(part).append(' ');
+        } else if (part instanceof Character) {
+            text.append((int) (Character) part).append(' ');
+        } else if (part instanceof CharSequence) {
+            text.append(part.toString()).append(' ');
+        } else if (part.getClass().isArray()) {
+            for (int i = 0; i < Array.getLength(part); i++) {
+                appendInside(Array.get(part, i), text);
+            }
+        } else if (part instanceof Iterable) {
+            for (Object element : (Iterable<?>) part) {
+                appendInside(element, text);
+            }
+        } else {
+            appendFields(part, text);
+        }
+    }
+
+    private static void appendFields(Object part, StringBuilder text) {
+        for (Field f : part.getClass().getDeclaredFields()) {
+            if (Modifier.isStatic(f.getModifiers())) {
+                continue;
+            }
+            f.setAccessible(true);
+            text.append(f.getName()).append('=');
+            try {
+                appendInside(f.get(part), text);
+            } catch (IllegalAccessException e) {
+                throw new IllegalStateException(e);
+            }
+        }
+    }
+
+    static String stepStates(LaunchRange x) {
+        StringBuilder text = new StringBuilder();
+        for (int i = 0; i < steps(x); i++) {
+            text.append(x.stepState(i));
+        }
+        return text.toString();
+    }
+
     static String at(LaunchRange x) {
         StringBuilder text = new StringBuilder();
         text.append(x.state()).append(' ').append(x.second());
@@ -55,10 +108,7 @@ final class Look {
         text.append(orElse(() -> " " + x.causeRule(), ""));
         text.append(" tanks ").append(x.inTank(0)).append(',').append(x.inTank(1)).append(',').append(x.inTank(2));
         text.append(" steps ");
-        for (int i = 0; i < steps(x); i++) {
-            text.append(x.stepState(i));
-        }
-        text.append(" rules");
+        text.append(stepStates(x)).append(" rules");
         for (int i = 0; i < rules(x); i++) {
             text.append(' ').append(x.value(i)).append('/').append(x.holdsFor(i)).append('/').append(x.isMet(i));
         }

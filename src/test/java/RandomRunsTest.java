@@ -31,21 +31,29 @@ final class RandomRunsTest {
         LaunchRange y = new LaunchRange();
         boolean isWild = seed % 4 == 0;
         for (int i = 0; i < CALLS; i++) {
-            String before = Look.at(x);
             int which = random.nextInt(27);
+            String where = "run " + seed + " call " + i + " kind " + which;
+            String before = look(x, isWild);
             int seconds = isWild ? number(random, 600) : 1 + random.nextInt(seed % 3 == 1 ? 40 : 4);
             ToLongFunction<LaunchRange> call = which > 21
                     ? r -> r.pass(seconds) : call(which, random, isWild || random.nextInt(20) == 0);
             String got = answer(x, call);
             String same = which > 21 && !got.startsWith("throws") ? passOneByOne(y, seconds) : answer(y, call);
-            Check.text("run " + seed + " call " + i + " kind " + which, same, got);
+            Check.text(where, same, got);
+            String after = look(x, isWild);
             if (got.startsWith("throws")) {
-                Check.text("run " + seed + " call " + i + " kind " + which + " leaves", Look.at(x), before);
+                Check.text(where + " leaves", after, before);
             }
-            Check.text("run " + seed + " call " + i + " kind " + which + " shows", Look.at(y), Look.at(x));
-            figures(x, "run " + seed + " call " + i);
+            Check.text(where + " shows", Look.at(y), Look.at(x));
+            figures(x, where);
+            Check.text(where + " looks change nothing", look(x, isWild), after);
         }
         return x.state();
+    }
+
+    /** To look at all that stands inside takes long, so only some runs do. */
+    private static String look(LaunchRange x, boolean isInside) {
+        return isInside ? Look.inside(x) : Look.at(x);
     }
 
     private static String passOneByOne(LaunchRange y, int seconds) {

@@ -287,14 +287,14 @@ final class TanksAndStepsTest {
         String[] due = {"r---", "r---", "er--", "eer-", "eee-", "eee-"};
         for (String d : due) {
             x.pass(1);
-            Check.text("held, the steps", steps(x), d);
+            Check.text("held, the steps", Look.stepStates(x), d);
         }
         Check.same("held all the time", x.count(), -10);
         x.setWind(0);
         x.pass(2);
-        Check.text("at the count -8, ahead of its second", steps(x), "eee-");
+        Check.text("at the count -8, ahead of its second", Look.stepStates(x), "eee-");
         x.pass(1);
-        Check.text("behind the second of the count -8", steps(x), "eeer");
+        Check.text("behind the second of the count -8", Look.stepStates(x), "eeer");
     }
 
     private static void stepsStandAfterCallOff() {
@@ -305,20 +305,20 @@ final class TanksAndStepsTest {
         x.begin(-10, 0, 100);
         x.pass(3);
         x.scrub();
-        Check.text("called off, the steps", steps(x), "er-");
+        Check.text("called off, the steps", Look.stepStates(x), "er-");
         x.pass(20);
-        Check.text("called off for long, the steps", steps(x), "er-");
+        Check.text("called off for long, the steps", Look.stepStates(x), "er-");
         x.begin(-10, 0, 100);
-        Check.text("begun again, the steps", steps(x), "---");
+        Check.text("begun again, the steps", Look.stepStates(x), "---");
         x.pass(9);
-        Check.text("nearly done again, the steps", steps(x), "ere");
+        Check.text("nearly done again, the steps", Look.stepStates(x), "ere");
         x.pass(1);
-        Check.text("done again, the steps", steps(x), "eee");
+        Check.text("done again, the steps", Look.stepStates(x), "eee");
         LaunchRange y = new LaunchRange();
         y.addStep(-1, 2);
         y.begin(-10, 0, 100);
         y.pass(20);
-        Check.text("no step goes on in the flight", steps(y), "r");
+        Check.text("no step goes on in the flight", Look.stepStates(y), "r");
     }
 
     private static void addMark() {
@@ -431,13 +431,5 @@ final class TanksAndStepsTest {
             x.pass(1);
             Check.same("each mark with its own seconds and steps, second " + i, x.count(), due[i]);
         }
-    }
-
-    private static String steps(LaunchRange x) {
-        StringBuilder text = new StringBuilder();
-        for (int i = 0; i < Look.steps(x); i++) {
-            text.append(x.stepState(i));
-        }
-        return text.toString();
     }
 }
