@@ -19,7 +19,9 @@ public final class AllTests {
         EdgesOfTheCountTest.run();
         EdgesOfFiguresTest.run();
         Edges.holdAgainst(Path.of(args.length > 0 ? args[0] : "../shared/DOC.md"));
+        ReadmeTest.holdAgainst(Path.of("README.md"));
         RandomRunsTest.run();
+        PlainRangeTest.run();
         System.out.println(Check.passed() + " passed, " + Check.failed() + " failed");
         if (Check.failed() != 0) {
             System.exit(1);
